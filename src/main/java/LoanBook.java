@@ -60,7 +60,7 @@ public final class LoanBook {
     private static final int SPOTS = 100;
 
     private final Tape tape = new Tape();
-    private final Reader reader = new Reader(tape);
+    private final Reader reader = new Reader();
     private final ArrayList<Thing> things = new ArrayList<>();
     private final ArrayList<House> houses = new ArrayList<>();
     private final ArrayList<Courier> couriers = new ArrayList<>();
@@ -97,7 +97,7 @@ public final class LoanBook {
     }
 
     public int thing() {
-        boolean right = reader.readsThing();
+        boolean right = reader.readsThing(tape);
         tape.keep(0);
         int fault = right ? Thing.faultIn(reader) : 0;
         int refusal = refusalOfText(right, fault, things.size() < MOST_THINGS);
@@ -109,7 +109,7 @@ public final class LoanBook {
     }
 
     public int house() {
-        boolean right = reader.readsHouse();
+        boolean right = reader.readsHouse(tape);
         tape.keep(0);
         int fault = right ? House.faultIn(reader) : 0;
         int refusal = refusalOfText(right, fault, houses.size() < MOST_HOUSES);
@@ -121,7 +121,7 @@ public final class LoanBook {
     }
 
     public int courier() {
-        boolean right = reader.readsCourier();
+        boolean right = reader.readsCourier(tape);
         tape.keep(0);
         int fault = right ? Courier.faultIn(reader) : 0;
         int refusal = refusalOfText(right, fault, couriers.size() < MOST_COURIERS);
@@ -138,14 +138,15 @@ public final class LoanBook {
             tape.keep(0);
             return refuse(NO_SUCH);
         }
-        boolean right = reader.readsLoan();
+        boolean right = reader.readsLoan(tape);
         tape.keep(0);
         int number = loans.size();
         int fault = right ? faultInLoan(borrower) : 0;
         Loan made = null;
         if (right && fault == 0) {
             made = draftLoan(borrower);
-            fault = findCouriers(made, number) ? 0 : FAULT_NO_COURIER;
+            boolean isGuarded = findCouriers(made, number, OUT) && findCouriers(made, number, BACK);
+            fault = isGuarded ? 0 : FAULT_NO_COURIER;
         }
         int refusal = refusalOfText(right, fault, number < MOST_LOANS);
         if (refusal != OK || made == null) {
@@ -162,9 +163,9 @@ public final class LoanBook {
         Thing of = thingAt(thing);
         if (of == null || !isDay(day)) {
             tape.keep(0);
-            return refuse(of == null ? NO_SUCH : WRONG_NUMBER);
+            return refuseAsked(of != null);
         }
-        boolean right = reader.readsReport();
+        boolean right = reader.readsReport(tape);
         tape.keep(0);
         int fault = right ? Report.faultIn(reader) : 0;
         if (right && fault == 0 && of.reportOn(day) != null) {
@@ -181,11 +182,8 @@ public final class LoanBook {
 
     public int appraise(int thing, int day, int value) {
         Thing of = thingAt(thing);
-        if (of == null) {
-            return refuse(NO_SUCH);
-        }
-        if (!isDay(day) || value < 1 || value > MOST_VALUE) {
-            return refuse(WRONG_NUMBER);
+        if (of == null || !isDay(day) || value < 1 || value > MOST_VALUE) {
+            return refuseAsked(of != null);
         }
         boolean isNew = !of.appraisals.tells(day);
         if (isNew && appraisals >= MOST_APPRAISALS) {
@@ -236,11 +234,8 @@ public final class LoanBook {
 
     public int value(int thing, int day) {
         Thing of = thingAt(thing);
-        if (of == null) {
-            return refuse(NO_SUCH);
-        }
-        if (!isDay(day)) {
-            return refuse(WRONG_NUMBER);
+        if (of == null || !isDay(day)) {
+            return refuseAsked(of != null);
         }
         return answer(of.valueOn(day));
     }
@@ -256,22 +251,16 @@ public final class LoanBook {
 
     public int where(int thing, int day) {
         Thing of = thingAt(thing);
-        if (of == null) {
-            return refuse(NO_SUCH);
-        }
-        if (!isDay(day)) {
-            return refuse(WRONG_NUMBER);
+        if (of == null || !isDay(day)) {
+            return refuseAsked(of != null);
         }
         return answer(of.calendar.loanOn(day));
     }
 
     public int free(int thing, int day, int days) {
         Thing of = thingAt(thing);
-        if (of == null) {
-            return refuse(NO_SUCH);
-        }
-        if (!isDay(day) || !isLength(days)) {
-            return refuse(WRONG_NUMBER);
+        if (of == null || !isDay(day) || !isLength(days)) {
+            return refuseAsked(of != null);
         }
         return answer(of.calendar.firstOpen(day, days));
     }
@@ -280,11 +269,8 @@ public final class LoanBook {
 
     public int stage(int loan, int day) {
         Loan of = standingLoanAt(loan);
-        if (of == null) {
-            return refuse(NO_SUCH);
-        }
-        if (!isDay(day)) {
-            return refuse(WRONG_NUMBER);
+        if (of == null || !isDay(day)) {
+            return refuseAsked(of != null);
         }
         return answer(of.stageOn(day));
     }
@@ -318,11 +304,8 @@ public final class LoanBook {
     public int guard(int loan, int parcel, int way) {
         Loan of = standingLoanAt(loan);
         Parcel asked = of == null ? null : of.parcelAt(parcel);
-        if (asked == null) {
-            return refuse(NO_SUCH);
-        }
-        if (way != OUT && way != BACK) {
-            return refuse(WRONG_NUMBER);
+        if (asked == null || (way != OUT && way != BACK)) {
+            return refuseAsked(asked != null);
         }
         return answer(asked.courierOn(way));
     }
@@ -337,22 +320,16 @@ public final class LoanBook {
 
     public int with(int courier, int day) {
         Courier of = courierAt(courier);
-        if (of == null) {
-            return refuse(NO_SUCH);
-        }
-        if (!isDay(day)) {
-            return refuse(WRONG_NUMBER);
+        if (of == null || !isDay(day)) {
+            return refuseAsked(of != null);
         }
         return answer(of.calendar.loanOn(day));
     }
 
     public int ready(int courier, int day, int days) {
         Courier of = courierAt(courier);
-        if (of == null) {
-            return refuse(NO_SUCH);
-        }
-        if (!isDay(day) || !isLength(days)) {
-            return refuse(WRONG_NUMBER);
+        if (of == null || !isDay(day) || !isLength(days)) {
+            return refuseAsked(of != null);
         }
         return answer(of.calendar.firstOpen(day, days));
     }
@@ -361,22 +338,16 @@ public final class LoanBook {
 
     public int cost(int loan, int day) {
         Loan of = standingLoanAt(loan);
-        if (of == null) {
-            return refuse(NO_SUCH);
-        }
-        if (!isDay(day)) {
-            return refuse(WRONG_NUMBER);
+        if (of == null || !isDay(day)) {
+            return refuseAsked(of != null);
         }
         return answer(of.costOn(day));
     }
 
     public int premium(int loan, int a, int b) {
         Loan of = standingLoanAt(loan);
-        if (of == null) {
-            return refuse(NO_SUCH);
-        }
-        if (!isDay(a) || !isDay(b) || a > b) {
-            return refuse(WRONG_NUMBER);
+        if (of == null || !isDay(a) || !isDay(b) || a > b) {
+            return refuseAsked(of != null);
         }
         return answer((int) (of.costBetween(a, b) / 10000));
     }
@@ -391,22 +362,16 @@ public final class LoanBook {
 
     public int harms(int thing, int day) {
         Thing of = thingAt(thing);
-        if (of == null) {
-            return refuse(NO_SUCH);
-        }
-        if (!isDay(day)) {
-            return refuse(WRONG_NUMBER);
+        if (of == null || !isDay(day)) {
+            return refuseAsked(of != null);
         }
         return answer(of.harmsOn(day));
     }
 
     public int note(int thing, int day, int k) {
         Thing of = thingAt(thing);
-        if (of == null) {
-            return refuse(NO_SUCH);
-        }
-        if (!isDay(day)) {
-            return refuse(WRONG_NUMBER);
+        if (of == null || !isDay(day)) {
+            return refuseAsked(of != null);
         }
         Report inForce = of.reportAt(of.latestReport(day));
         if (inForce == null) {
@@ -417,11 +382,8 @@ public final class LoanBook {
 
     public int damage(int thing, int day) {
         Thing of = thingAt(thing);
-        if (of == null) {
-            return refuse(NO_SUCH);
-        }
-        if (!isDay(day)) {
-            return refuse(WRONG_NUMBER);
+        if (of == null || !isDay(day)) {
+            return refuseAsked(of != null);
         }
         if (of.reportOn(day) == null) {
             return refuse(NO_SUCH);
@@ -431,11 +393,8 @@ public final class LoanBook {
 
     public int bearer(int thing, int day) {
         Thing of = thingAt(thing);
-        if (of == null) {
-            return refuse(NO_SUCH);
-        }
-        if (!isDay(day)) {
-            return refuse(WRONG_NUMBER);
+        if (of == null || !isDay(day)) {
+            return refuseAsked(of != null);
         }
         if (of.reportOn(day) == null) {
             return refuse(NO_SUCH);
@@ -479,6 +438,10 @@ public final class LoanBook {
     private int refuse(int why) {
         lastStatus = why;
         return BAD;
+    }
+
+    private int refuseAsked(boolean isThere) {
+        return refuse(isThere ? WRONG_NUMBER : NO_SUCH);
     }
 
     private int answerByte(String written, int k) {
@@ -599,11 +562,7 @@ public final class LoanBook {
         heaviestFirst.add(at, next);
     }
 
-    private boolean findCouriers(Loan draft, int number) {
-        return findCouriersOn(draft, number, OUT) && findCouriersOn(draft, number, BACK);
-    }
-
-    private boolean findCouriersOn(Loan draft, int number, int way) {
+    private boolean findCouriers(Loan draft, int number, int way) {
         int from = draft.firstOf(way);
         int to = from + draft.borrower.way - 1;
         for (int i = 0; i < draft.parcels.size(); i++) {
@@ -759,23 +718,18 @@ public final class LoanBook {
     private static final class Pieces {
         private static final int MOST_DIGITS = 4;
 
-        private final Tape tape;
         private final int[] starts = new int[Tape.ROOM];
         private final int[] codes = new int[Tape.ROOM];
         private final int[] numbers = new int[Tape.ROOM];
         private int size = 0;
         private int end = 0;
 
-        Pieces(Tape tape) {
-            this.tape = tape;
-        }
-
-        void cutTape() {
+        void cut(Tape tape) {
             size = 0;
             end = tape.size();
             int at = 0;
             for (int step = 0; step < Tape.ROOM && at < end; step++) {
-                at = cutFrom(at);
+                at = cutFrom(tape, at);
             }
         }
 
@@ -791,20 +745,20 @@ public final class LoanBook {
             return i >= 0 && i < size ? starts[i] : end;
         }
 
-        private int cutFrom(int at) {
+        private int cutFrom(Tape tape, int at) {
             int first = tape.byteAt(at);
             if (first == BLANK) {
                 return at + 1;
             }
             if (first >= '0' && first <= '9') {
-                int behind = behindRow(at, '0', '9');
+                int behind = behindRow(tape, at, '0', '9');
                 boolean isNumber = behind - at <= MOST_DIGITS;
-                add(at, isNumber ? PIECE_NUMBER : PIECE_BROKEN, isNumber ? numberIn(at, behind) : 0);
+                add(at, isNumber ? PIECE_NUMBER : PIECE_BROKEN, isNumber ? numberIn(tape, at, behind) : 0);
                 return behind;
             }
             if (first >= 'a' && first <= 'z') {
-                int behind = behindRow(at, 'a', 'z');
-                add(at, wordIn(at, behind), 0);
+                int behind = behindRow(tape, at, 'a', 'z');
+                add(at, wordIn(tape, at, behind), 0);
                 return behind;
             }
             boolean isMark = first == '+' || first == '-' || first == ',' || first == ':';
@@ -812,7 +766,7 @@ public final class LoanBook {
             return at + 1;
         }
 
-        private int behindRow(int at, int least, int most) {
+        private int behindRow(Tape tape, int at, int least, int most) {
             int behind = at;
             while (behind < end && tape.byteAt(behind) >= least && tape.byteAt(behind) <= most) {
                 behind++;
@@ -820,7 +774,7 @@ public final class LoanBook {
             return behind;
         }
 
-        private int numberIn(int from, int behind) {
+        private int numberIn(Tape tape, int from, int behind) {
             int number = 0;
             for (int i = from; i < behind; i++) {
                 number = number * 10 + tape.byteAt(i) - '0';
@@ -828,16 +782,16 @@ public final class LoanBook {
             return number;
         }
 
-        private int wordIn(int from, int behind) {
+        private int wordIn(Tape tape, int from, int behind) {
             for (int word = WORD_NOT; word < WORD_END; word++) {
-                if (isSpelt(spelling(word), from, behind)) {
+                if (isSpelt(tape, spelling(word), from, behind)) {
                     return word;
                 }
             }
             return PIECE_BROKEN;
         }
 
-        private boolean isSpelt(String word, int from, int behind) {
+        private boolean isSpelt(Tape tape, String word, int from, int behind) {
             if (word.length() != behind - from) {
                 return false;
             }
@@ -861,15 +815,11 @@ public final class LoanBook {
 
     /** Reads a text into a row: its numbers, KINDS and SORTS in the order in which they stand. */
     private static final class Reader {
-        private final Pieces pieces;
+        private final Pieces pieces = new Pieces();
         private final int[] row = new int[Tape.ROOM];
         private int size = 0;
         private int at = 0;
         private int wrongAt = BAD;
-
-        Reader(Tape tape) {
-            pieces = new Pieces(tape);
-        }
 
         int size() {
             return size;
@@ -883,18 +833,18 @@ public final class LoanBook {
             return wrongAt;
         }
 
-        boolean readsThing() {
-            begin();
+        boolean readsThing(Tape tape) {
+            begin(tape);
             return takesWord(WORD_KIND, KINDS) && takesNumber() && takesNumber() && takesBars() && isAtEnd();
         }
 
-        boolean readsHouse() {
-            begin();
+        boolean readsHouse(Tape tape) {
+            begin(tape);
             return takesNumber() && takesNumber() && takesNumber() && takesNumber() && isAtEnd();
         }
 
-        boolean readsCourier() {
-            begin();
+        boolean readsCourier(Tape tape) {
+            begin(tape);
             boolean right = takesSpan();
             for (int step = 0; step < Tape.ROOM && right && skips(','); step++) {
                 right = takesSpan();
@@ -902,8 +852,8 @@ public final class LoanBook {
             return right && isAtEnd();
         }
 
-        boolean readsLoan() {
-            begin();
+        boolean readsLoan(Tape tape) {
+            begin(tape);
             boolean right = takesNumber() && takesMark('+') && takesNumber() && takesMark(':') && takesNumber();
             for (int step = 0; step < Tape.ROOM && right && skips(','); step++) {
                 right = takesNumber();
@@ -911,8 +861,8 @@ public final class LoanBook {
             return right && isAtEnd();
         }
 
-        boolean readsReport() {
-            begin();
+        boolean readsReport(Tape tape) {
+            begin(tape);
             if (skips(WORD_SOUND)) {
                 return isAtEnd();
             }
@@ -923,8 +873,8 @@ public final class LoanBook {
             return right && isAtEnd();
         }
 
-        private void begin() {
-            pieces.cutTape();
+        private void begin(Tape tape) {
+            pieces.cut(tape);
             size = 0;
             at = 0;
             wrongAt = BAD;
@@ -1013,14 +963,22 @@ public final class LoanBook {
         }
 
         boolean isOpen(int from, int to) {
-            return isDay(from) && firstOpen(from, to - from + 1) == from;
+            if (!isDay(from) || !isDay(to)) {
+                return false;
+            }
+            for (int day = from; day <= to; day++) {
+                if (days[day] != OPEN) {
+                    return false;
+                }
+            }
+            return true;
         }
 
         int firstOpen(int from, int many) {
-            int row = 0;
+            int inRow = 0;
             for (int day = Math.max(from, 0); day < DAYS; day++) {
-                row = days[day] == OPEN ? row + 1 : 0;
-                if (row == many) {
+                inRow = days[day] == OPEN ? inRow + 1 : 0;
+                if (inRow == many) {
                     return day - many + 1;
                 }
             }
@@ -1067,7 +1025,7 @@ public final class LoanBook {
             return at >= 0 && at < size && days[at] == day;
         }
 
-        int valueOn(int day, int first) {
+        int latestValue(int day, int first) {
             int at = latest(day);
             return at >= 0 && at < size ? values[at] : first;
         }
@@ -1135,11 +1093,10 @@ public final class LoanBook {
             }
             int bits = 0;
             for (int i = 3; i < text.size(); i++) {
-                int bit = 1 << text.told(i);
-                if ((bits & bit) != 0) {
+                if (holdsBit(bits, text.told(i))) {
                     return FAULT_BARS_TWICE;
                 }
-                bits |= bit;
+                bits |= 1 << text.told(i);
             }
             return 0;
         }
@@ -1148,7 +1105,7 @@ public final class LoanBook {
             StringBuilder text = new StringBuilder();
             text.append(spelling(WORD_KIND + kind)).append(' ').append(firstValue).append(' ').append(weighs);
             for (int other = 0; other < KINDS; other++) {
-                if ((barred >> other & 1) == 1) {
+                if (holdsBit(barred, other)) {
                     text.append(" not ").append(spelling(WORD_KIND + other));
                 }
             }
@@ -1156,11 +1113,15 @@ public final class LoanBook {
         }
 
         boolean bars(int other) {
-            return (barred >> other & 1) == 1;
+            return holdsBit(barred, other);
+        }
+
+        private static boolean holdsBit(int bits, int bit) {
+            return ((bits >> bit) & 1) == 1;
         }
 
         int valueOn(int day) {
-            return appraisals.valueOn(day, firstValue);
+            return appraisals.latestValue(day, firstValue);
         }
 
         int reportsTold() {
@@ -1265,7 +1226,7 @@ public final class LoanBook {
 
         Report(int day, Reader text) {
             this.day = day;
-            int many = text.size() / 3;
+            int many = harmsIn(text);
             spots = new int[many];
             sizes = new int[many];
             for (int i = 0; i < many; i++) {
@@ -1283,7 +1244,7 @@ public final class LoanBook {
         }
 
         static int faultIn(Reader text) {
-            int many = text.size() / 3;
+            int many = harmsIn(text);
             for (int i = 0; i < many; i++) {
                 int size = text.told(3 * i + 2);
                 if (text.told(3 * i + 1) >= SPOTS || size < 1 || size > 99) {
@@ -1298,6 +1259,10 @@ public final class LoanBook {
                 }
             }
             return 0;
+        }
+
+        private static int harmsIn(Reader text) {
+            return Math.max(text.size() / 3, 0);
         }
 
         private static int spotIn(Reader text, int harm) {
@@ -1389,7 +1354,7 @@ public final class LoanBook {
             }
         }
 
-        int valueOn(int day) {
+        int worthOn(int day) {
             int sum = 0;
             for (int i = 0; i < content.size(); i++) {
                 sum += content.get(i).valueOn(day);
@@ -1472,7 +1437,7 @@ public final class LoanBook {
             int most = borrower.guard;
             for (int i = 0; i < parcels.size(); i++) {
                 Parcel next = parcels.get(i);
-                int told = next.valueOn(firstOf(way));
+                int told = next.worthOn(firstOf(way));
                 if (next.courierOn(way) == NONE && told > most) {
                     dearest = next;
                     most = told;
@@ -1513,7 +1478,8 @@ public final class LoanBook {
         int dearestDay() {
             int dearest = first;
             int most = 0;
-            for (int day = first; day <= last(); day++) {
+            int end = last();
+            for (int day = first; day <= end; day++) {
                 int told = costOn(day);
                 if (told > most) {
                     dearest = day;
