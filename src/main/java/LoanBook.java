@@ -150,6 +150,7 @@ public final class LoanBook {
         }
         int refusal = refusalOfText(right, fault, number < MOST_LOANS);
         if (refusal != OK || made == null) {
+            // it may have got some COURIERS ahead of the PARCEL that got none, or have no room
             releaseCouriers(number);
             return refuse(refusal);
         }
@@ -706,7 +707,9 @@ public final class LoanBook {
         }
 
         void keep(int n) {
-            size = n;
+            if (n >= 0 && n <= size) {
+                size = n;
+            }
         }
 
         int byteAt(int i) {
@@ -1154,6 +1157,7 @@ public final class LoanBook {
             return inForce == null ? 0 : inForce.harmsTold();
         }
 
+        // A TAPE holds 15 HARMS at most, so that an int holds any DAMAGE.
         int damageTold(int i) {
             Report own = reportAt(i);
             Report ahead = reportAt(i - 1);
@@ -1446,6 +1450,7 @@ public final class LoanBook {
             return dearest;
         }
 
+        // 16 THINGS of 9999 with 15 HARMS each, at a RATE of 99, three times, are less than 2^31.
         int costOn(int day) {
             int now = stageOn(day);
             if (now == STAGE_NONE) {

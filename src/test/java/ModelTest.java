@@ -40,7 +40,7 @@ public final class ModelTest {
         for (String what : wanted) {
             check.due("the runs came to '" + what + "'", seen.containsKey(what) ? 1 : 0, 1);
         }
-        System.out.println(seen);
+        System.out.println(seen.size() + " kinds of answers came");
         check.close();
     }
 

@@ -153,6 +153,8 @@ public final class PromiseTest {
         reads("thing", "sheet 9999 1", -1);
         reads("thing", "sheets 5 5", 0);
         reads("thing", "shee 5 5", 0);
+        reads("thing", "xheet 5 5", 0);
+        reads("thing", "sheex 5 5", 0);
         reads("thing", " Sheet 5 5", 1);
         reads("thing", "not sheet 5 5", 0);
         reads("thing", "sound 5 5", 0);
@@ -374,6 +376,14 @@ public final class PromiseTest {
         book.cancel(0);
         check.answered(book, "in place of one cancelled", Check.loan(book, 0, "0+1:0"), 4);
         check.due("count(3)", book.count(3), 5);
+        LoanBook far = new LoanBook();
+        Check.house(far, "30 50 9999 9");
+        Check.thing(far, "jar 100 50");
+        faulty(far, "a day 1000", Check.loan(far, 0, "640+301:0"), 5);
+        faulty(far, "a day 1000", Check.loan(far, 0, "641+300:0"), 5);
+        check.answered(far, "up to 999", Check.loan(far, 0, "640+300:0"), 0);
+        faulty(far, "its last day", Check.loan(far, 0, "570+11:0"), 6);
+        check.answered(far, "up to the day ahead", Check.loan(far, 0, "570+10:0"), 1);
     }
 
     private static void faultsOfReports() {
@@ -382,6 +392,7 @@ public final class PromiseTest {
         Check.thing(book, "jar 100 50");
         Check.thing(book, "jar 100 50");
         faulty(book, "spot 100", Check.report(book, 0, 5, "tear 100 5"), 9);
+        faulty(book, "spot 100 of a later one", Check.report(book, 0, 5, "tear 5 5, loss 5 5, loss 100 5"), 9);
         faulty(book, "size 0", Check.report(book, 0, 5, "tear 5 0"), 9);
         faulty(book, "size 100", Check.report(book, 0, 5, "tear 5 5, loss 5 100"), 9);
         faulty(book, "the same twice, and size 0", Check.report(book, 0, 5, "tear 5 5, tear 5 5, loss 5 0"), 9);
@@ -433,6 +444,11 @@ public final class PromiseTest {
         check.answered(book, "appraise a pair told", book.appraise(15, 94, 8), 9);
         check.due("value(15, 94)", book.value(15, 94), 8);
         check.refused(book, "appraise 48, value 0", book.appraise(0, 1, 0), 3);
+        LoanBook again = new LoanBook();
+        Check.thing(again, "jar 7 7");
+        for (int i = 1; i <= 60; i++) {
+            check.answered(again, "the same pair again", again.appraise(0, 5, i), i == 1 ? 7 : i - 1);
+        }
         for (int what = 0; what < 6; what++) {
             int want = new int[] {16, 6, 8, 0, 0, 48}[what];
             check.due("count(" + what + ")", book.count(what), want);
@@ -840,6 +856,19 @@ public final class PromiseTest {
         check.answered(book, "cost 13", book.cost(0, 13), 7 * (100 * 10 + 1000 * 10));
         check.answered(book, "cost 15", book.cost(0, 15), 7 * (100 * 10 * 2 + 1000 * 10 * 3));
         check.answered(book, "cost 16", book.cost(0, 16), 7 * (100 * 10 * 2 + 1000 * 11 * 3));
+        LoanBook oneWay = new LoanBook();
+        Check.thing(oneWay, "jar 100 50");
+        Check.house(oneWay, "1 50 100 1");
+        Check.courier(oneWay, "0-99");
+        oneWay.appraise(0, 3, 101);
+        Check.loan(oneWay, 0, "1+1:0");
+        Check.loan(oneWay, 0, "4+1:0");
+        oneWay.appraise(0, 9, 50);
+        Check.loan(oneWay, 0, "7+1:0");
+        int[] costs = {3000, 1000, 2020, 2020, 1010, 2020, 2020, 1010, 1500};
+        for (int i = 0; i < costs.length; i++) {
+            check.answered(oneWay, "cost of day " + (i + 1), oneWay.cost(i / 3, i + 1), costs[i]);
+        }
         check.refused(book, "cost(1, 0)", book.cost(1, 0), 1);
         check.refused(book, "cost(0, 1000)", book.cost(0, 1000), 3);
         check.refused(book, "cost(0, -1)", book.cost(0, -1), 3);
@@ -860,6 +889,14 @@ public final class PromiseTest {
         check.refused(book, "a -1", book.premium(0, -1, 11), 3);
         check.refused(book, "b 1000", book.premium(0, 11, 1000), 3);
         check.refused(book, "premium(1, 0, 0)", book.premium(1, 0, 0), 1);
+        LoanBook edge = new LoanBook();
+        Check.thing(edge, "jar 1000 1");
+        Check.house(edge, "1 1 9999 1");
+        Check.loan(edge, 0, "0+1:0");
+        check.answered(edge, "10000", edge.premium(0, 1, 1), 1);
+        edge.appraise(0, 1, 909);
+        Check.report(edge, 0, 1, "tear 1 1");
+        check.answered(edge, "9999", edge.premium(0, 1, 1), 0);
         LoanBook dear = new LoanBook();
         for (int i = 0; i < 16; i++) {
             Check.thing(dear, "jar 9999 1");
@@ -992,6 +1029,21 @@ public final class PromiseTest {
         check.answered(even, "loans in part", even.bearer(0, 10), 2);
         Check.report(even, 0, 41, "sound");
         check.answered(even, "loans in part", even.bearer(0, 41), 0);
+        Check.report(even, 0, 43, "sound");
+        check.answered(even, "one of its days", even.bearer(0, 43), 3);
+        LoanBook rising = new LoanBook();
+        Check.thing(rising, "jar 100 50");
+        Check.house(rising, "1 50 9999 7");
+        Check.loan(rising, 0, "10+3:0");
+        Check.loan(rising, 0, "30+3:0");
+        Check.report(rising, 0, 9, "sound");
+        Check.report(rising, 0, 50, "sound");
+        check.answered(rising, "as many days, the first day is less", rising.bearer(0, 50), 0);
+        Check.report(rising, 0, 10, "sound");
+        check.answered(rising, "its first day alone", rising.bearer(0, 10), 0);
+        Check.report(rising, 0, 34, "sound");
+        Check.report(rising, 0, 33, "sound");
+        check.answered(rising, "its last day alone", rising.bearer(0, 34), 1);
     }
 
     private static void chargesAndHome() {
@@ -1024,6 +1076,18 @@ public final class PromiseTest {
         check.refused(book, "charge(0) behind cancel(0)", book.charge(0), 1);
         check.due("home()", book.home(), 5);
         check.due("status() stays behind home()", book.status(), 1);
+        LoanBook edge = new LoanBook();
+        Check.thing(edge, "jar 333 50");
+        Check.report(edge, 0, 5, "sound");
+        Check.report(edge, 0, 6, "tear 1 1");
+        check.due("home() of 999", edge.home(), 0);
+        Check.report(edge, 0, 8, "stain 2 1");
+        edge.appraise(0, 6, 1);
+        edge.appraise(0, 8, 498);
+        check.due("home() of 3 and 996", edge.home(), 0);
+        edge.appraise(0, 6, 2);
+        edge.appraise(0, 8, 497);
+        check.due("home() of 6 and 994", edge.home(), 1);
         check.refused(book, "charge(-1)", book.charge(-1), 1);
         check.refused(book, "charge(1)", book.charge(1), 1);
     }
