@@ -1,22 +1,24 @@
 import java.nio.charset.StandardCharsets;
+import java.util.List;
 import java.util.TreeMap;
 
 /** Long runs of made-up calls, each answered by the class and by the Model alike. The runs are always the same. */
 public final class ModelTest {
-    private static final int RUNS = 4000;
-    private static final int CALLS = 512;
+    private static final int RUNS = 9000;
+    // the calls that one step may make, with what is asked behind each
+    private static final int STEP = 40;
     private static final int REPORTS = 6;
     private static final String[] WORDS = {"sheet", "jar", "skin", "cast", "book", "tear", "stain", "crack", "loss",
         "not", "sound", "5", "12345", "007", "+", "-", ",", ":", " ", "#", "x", "\u00e9", "\u0000"};
     private static final String[] KINDS = {"sheet", "jar", "skin", "cast", "book"};
+    private static final List<String> READING = List.of("thing", "house", "courier", "loan", "report");
     private static final String[] SORTS = {"tear", "stain", "crack", "loss"};
 
     private final Check check;
     private final TreeMap<String, Integer> seen;
-    private LoanBook book;
+    private Book book;
     private Model model;
     private long state;
-    private int calls;
     private int span;
     private int favourite;
 
@@ -46,21 +48,20 @@ public final class ModelTest {
 
     private void run(int seed) {
         state = seed * 7919L + 12345;
-        book = new LoanBook();
+        book = new Book();
         model = new Model();
-        calls = 0;
         span = new int[] {40, 120, 990}[below(3)];
         favourite = below(24);
         // some runs make much of the book first, so that there is more to ask about
-        int making = favourite == REPORTS ? 440 : oneIn(3) ? 200 : 60;
+        int making = favourite == REPORTS ? Book.CALLS : oneIn(3) ? 250 : 100;
         for (int i = 0; i < 4; i++) {
             tellThing();
         }
         tellHouse();
         tellCourier();
         tellCourier();
-        while (calls < CALLS - 8) {
-            if (calls < making || below(5) == 0) {
+        while (book.callsLeft() > STEP) {
+            if (Book.CALLS - book.callsLeft() < making || below(5) == 0) {
                 tellSomething();
             } else {
                 askSomething();
@@ -78,11 +79,15 @@ public final class ModelTest {
     }
 
     private void due(String call, int got, int want) {
-        calls++;
         check.due(call, got, want);
-        check.due("status() behind " + call, book.status(), model.status);
-        check.due("place() behind " + call, book.place(), model.place);
-        check.due("fault() behind " + call, book.fault(), model.fault);
+        boolean tapes = call.equals("feed") || call.equals("end");
+        if (!tapes || oneIn(4)) {
+            check.due("status() behind " + call, book.status(), model.status);
+        }
+        if (READING.contains(call) || oneIn(8)) {
+            check.due("place() behind " + call, book.place(), model.place);
+            check.due("fault() behind " + call, book.fault(), model.fault);
+        }
         String key = call.split("[( ]")[0] + " " + model.status + (model.status == 4 ? " " + model.fault : "");
         seen.merge(key, 1, Integer::sum);
     }
@@ -138,7 +143,7 @@ public final class ModelTest {
     }
 
     private String reportText() {
-        if (oneIn(favourite == REPORTS ? 2 : 6)) {
+        if (favourite == REPORTS ? !oneIn(4) : oneIn(6)) {
             return blanks() + "sound" + blanks();
         }
         StringBuilder text = new StringBuilder();
@@ -180,7 +185,9 @@ public final class ModelTest {
     // ---- calls ----
 
     private void tellSomething() {
-        switch (oneIn(2) && favourite < 12 ? favourite : below(12)) {
+        // 48 REPORTS want nearly all calls of a run
+        boolean again = favourite == REPORTS ? !oneIn(12) : favourite < 12 && oneIn(2);
+        switch (again ? favourite : below(12)) {
             case 0: tellThing(); break;
             case 1: tellHouse(); break;
             case 2: tellCourier(); break;
@@ -221,7 +228,7 @@ public final class ModelTest {
     }
 
     private void tellValue() {
-        for (int i = below(6); i >= 0 && calls < CALLS - 8; i--) {
+        for (int i = below(6); i >= 0; i--) {
             int thing = any(model.things.size());
             int day = day();
             int value = oneIn(30) ? below(3) * 5000 - 1 : 1 + below(oneIn(2) ? 9999 : 600);

@@ -45,25 +45,27 @@ public final class PromiseTest {
         check.close();
     }
 
-    private static void written(LoanBook book, int what, int number, String want) {
+    private static void written(Book book, int what, int number, String want) {
         for (int k = 0; k < want.length(); k++) {
-            check.answered(book, "letter " + k + " of " + want, book.letter(what, number, k), want.charAt(k));
+            check.due("letter " + k + " of " + want, book.letter(what, number, k), want.charAt(k));
         }
+        check.due("status() behind " + want, book.status(), 0);
         check.refused(book, "letter behind " + want, book.letter(what, number, want.length()), 1);
         check.refused(book, "letter -1 of " + want, book.letter(what, number, -1), 1);
     }
 
-    private static void noted(LoanBook book, int thing, int day, String want) {
+    private static void noted(Book book, int thing, int day, String want) {
         for (int k = 0; k < want.length(); k++) {
-            check.answered(book, "note " + k + " of " + want, book.note(thing, day, k), want.charAt(k));
+            check.due("note " + k + " of " + want, book.note(thing, day, k), want.charAt(k));
         }
+        check.due("status() behind " + want, book.status(), 0);
         check.refused(book, "note behind " + want, book.note(thing, day, want.length()), 1);
         check.refused(book, "note -1 of " + want, book.note(thing, day, -1), 1);
     }
 
     private static void newObject() {
         check.about("promise 1");
-        LoanBook book = new LoanBook();
+        Book book = new Book();
         check.due("BAD", LoanBook.BAD, -9999);
         check.due("status()", book.status(), 0);
         check.due("place()", book.place(), BAD);
@@ -72,14 +74,14 @@ public final class PromiseTest {
         for (int what = 0; what <= 6; what++) {
             check.due("count(" + what + ")", book.count(what), 0);
         }
-        LoanBook other = new LoanBook();
+        Book other = new Book();
         Check.thing(book, "jar 1 1");
         check.due("count(0) of another book", other.count(0), 0);
     }
 
     private static void feedAndEnd() {
         check.about("promises 2 and 3");
-        LoanBook book = new LoanBook();
+        Book book = new Book();
         check.refused(book, "end(1)", book.end(1), 3);
         check.answered(book, "end(0)", book.end(0), 0);
         for (int size = 20; size <= 120; size += 20) {
@@ -109,23 +111,13 @@ public final class PromiseTest {
 
     /** The text is WRONG at the place; -1: it is right. */
     private static void reads(String what, String text, int place) {
-        LoanBook book = new LoanBook();
+        Book book = new Book();
         Check.thing(book, "jar 1 1");
         Check.house(book, "1 999 9999 1");
-        Check.tell(book, text);
-        int got = BAD;
-        switch (what) {
-            case "thing": got = book.thing(); break;
-            case "house": got = book.house(); break;
-            case "courier": got = book.courier(); break;
-            case "loan": got = book.loan(0); break;
-            default: got = book.report(0, 5); break;
-        }
+        int got = Check.read(book, what, text);
         String call = what + "() of '" + text + "'";
         if (place >= 0) {
-            check.refused(book, call, got, 2);
-            check.due("place() behind " + call, book.place(), place);
-            check.due("fault() behind " + call, book.fault(), 0);
+            check.wrong(book, call, got, place);
         } else {
             check.due("status() behind " + call, book.status(), 0);
             check.due("place() behind " + call, book.place(), BAD);
@@ -265,7 +257,7 @@ public final class PromiseTest {
 
     private static void orderOfRefusals() {
         check.about("promises 4 to 9, which refusal comes first");
-        LoanBook book = new LoanBook();
+        Book book = new Book();
         Check.tell(book, "sheet 5");
         check.refused(book, "loan(0) without houses", book.loan(0), 1);
         check.due("tape behind a 1", book.count(6), 0);
@@ -306,20 +298,14 @@ public final class PromiseTest {
         check.refused(book, "premium(0, 5, 4)", book.premium(0, 5, 4), 3);
     }
 
-    private static void faulty(LoanBook book, String call, int got, int fault) {
-        check.refused(book, call, got, 4);
-        check.due("fault() behind " + call, book.fault(), fault);
-        check.due("place() behind " + call, book.place(), BAD);
-    }
-
     private static void faultsOfThings() {
         check.about("promise 4, FAULTS 1 and 2");
-        LoanBook book = new LoanBook();
-        faulty(book, "n 0", Check.thing(book, "jar 0 5"), 1);
-        faulty(book, "m 0", Check.thing(book, "jar 5 0"), 1);
-        faulty(book, "m 1000", Check.thing(book, "jar 5 1000"), 1);
-        faulty(book, "two nots", Check.thing(book, "jar 5 5 not jar not skin not jar"), 2);
-        faulty(book, "both", Check.thing(book, "jar 5 0 not jar not jar"), 1);
+        Book book = new Book();
+        check.faulty(book, "n 0", Check.thing(book, "jar 0 5"), 1);
+        check.faulty(book, "m 0", Check.thing(book, "jar 5 0"), 1);
+        check.faulty(book, "m 1000", Check.thing(book, "jar 5 1000"), 1);
+        check.faulty(book, "two nots", Check.thing(book, "jar 5 5 not jar not skin not jar"), 2);
+        check.faulty(book, "both", Check.thing(book, "jar 5 0 not jar not jar"), 1);
         check.answered(book, "least", Check.thing(book, "jar 1 1"), 0);
         check.answered(book, "most", Check.thing(book, "jar 9999 999 not sheet not jar not skin not cast not book"), 1);
         check.due("count(0)", book.count(0), 2);
@@ -327,20 +313,20 @@ public final class PromiseTest {
 
     private static void faultsOfHousesAndCouriers() {
         check.about("promises 5 and 6, FAULTS 3 and 4");
-        LoanBook book = new LoanBook();
-        faulty(book, "n 0", Check.house(book, "0 5 5 5"), 3);
-        faulty(book, "n 31", Check.house(book, "31 5 5 5"), 3);
-        faulty(book, "m 0", Check.house(book, "5 0 5 5"), 3);
-        faulty(book, "p 0", Check.house(book, "5 5 5 0"), 3);
-        faulty(book, "p 100", Check.house(book, "5 5 5 100"), 3);
+        Book book = new Book();
+        check.faulty(book, "n 0", Check.house(book, "0 5 5 5"), 3);
+        check.faulty(book, "n 31", Check.house(book, "31 5 5 5"), 3);
+        check.faulty(book, "m 0", Check.house(book, "5 0 5 5"), 3);
+        check.faulty(book, "p 0", Check.house(book, "5 5 5 0"), 3);
+        check.faulty(book, "p 100", Check.house(book, "5 5 5 100"), 3);
         check.answered(book, "least", Check.house(book, "1 1 0 1"), 0);
         check.answered(book, "most", Check.house(book, "30 9999 9999 99"), 1);
-        faulty(book, "s above t", Check.courier(book, "6-5"), 4);
-        faulty(book, "t 1000", Check.courier(book, "6-1000"), 4);
-        faulty(book, "s as the t ahead", Check.courier(book, "6-7,7-8"), 4);
-        faulty(book, "s below the t ahead", Check.courier(book, "6-7,1-2"), 4);
-        faulty(book, "second s above t", Check.courier(book, "6-7,9-8"), 4);
-        faulty(book, "thirty spans", Check.courier(book, "0-0,1-1,2-2,3-3,4-4,5-5,6-6,7-7,8-8,9-9,0-0,1-1,2-2,3-3,"
+        check.faulty(book, "s above t", Check.courier(book, "6-5"), 4);
+        check.faulty(book, "t 1000", Check.courier(book, "6-1000"), 4);
+        check.faulty(book, "s as the t ahead", Check.courier(book, "6-7,7-8"), 4);
+        check.faulty(book, "s below the t ahead", Check.courier(book, "6-7,1-2"), 4);
+        check.faulty(book, "second s above t", Check.courier(book, "6-7,9-8"), 4);
+        check.faulty(book, "thirty spans", Check.courier(book, "0-0,1-1,2-2,3-3,4-4,5-5,6-6,7-7,8-8,9-9,0-0,1-1,2-2,3-3,"
             + "4-4,5-5,6-6,7-7,8-8,9-9,0-0,1-1,2-2,3-3,4-4,5-5,6-6,7-7,8-8,9-9"), 4);
         check.answered(book, "a day", Check.courier(book, "0-0"), 0);
         check.answered(book, "all days", Check.courier(book, "0-6,7-999"), 1);
@@ -350,56 +336,56 @@ public final class PromiseTest {
 
     private static void faultsOfLoans() {
         check.about("promise 7, FAULTS 5 to 8");
-        LoanBook book = new LoanBook();
+        Book book = new Book();
         Check.house(book, "2 50 100 9");
         Check.thing(book, "jar 100 50");
         Check.thing(book, "jar 101 50");
         Check.thing(book, "jar 1 51");
-        faulty(book, "t 0", Check.loan(book, 0, "0+0:0"), 5);
-        faulty(book, "t 301", Check.loan(book, 0, "0+301:0"), 5);
-        faulty(book, "a day 1000", Check.loan(book, 0, "700+297:0"), 5);
-        faulty(book, "s 9999", Check.loan(book, 0, "9999+1:0"), 5);
-        faulty(book, "no such thing", Check.loan(book, 0, "0+1:3"), 5);
-        faulty(book, "the same thing twice", Check.loan(book, 0, "0+1:0,0"), 5);
-        faulty(book, "things falling", Check.loan(book, 0, "0+1:2,0"), 5);
-        faulty(book, "58 things", Check.loan(book, 0, "0+1:0" + ",0".repeat(57)), 5);
-        faulty(book, "too heavy", Check.loan(book, 0, "0+1:2"), 7);
-        faulty(book, "too heavy, and no courier", Check.loan(book, 0, "0+1:1,2"), 7);
-        faulty(book, "no courier", Check.loan(book, 0, "0+1:0,1"), 8);
+        check.faulty(book, "t 0", Check.loan(book, 0, "0+0:0"), 5);
+        check.faulty(book, "t 301", Check.loan(book, 0, "0+301:0"), 5);
+        check.faulty(book, "a day 1000", Check.loan(book, 0, "700+297:0"), 5);
+        check.faulty(book, "s 9999", Check.loan(book, 0, "9999+1:0"), 5);
+        check.faulty(book, "no such thing", Check.loan(book, 0, "0+1:3"), 5);
+        check.faulty(book, "the same thing twice", Check.loan(book, 0, "0+1:0,0"), 5);
+        check.faulty(book, "things falling", Check.loan(book, 0, "0+1:2,0"), 5);
+        check.faulty(book, "58 things", Check.loan(book, 0, "0+1:0" + ",0".repeat(57)), 5);
+        check.faulty(book, "too heavy", Check.loan(book, 0, "0+1:2"), 7);
+        check.faulty(book, "too heavy, and no courier", Check.loan(book, 0, "0+1:1,2"), 7);
+        check.faulty(book, "no courier", Check.loan(book, 0, "0+1:0,1"), 8);
         check.answered(book, "as heavy as the limit, as dear as the guard", Check.loan(book, 0, "0+1:0"), 0);
-        faulty(book, "its days, and too heavy", Check.loan(book, 0, "4+1:0,2"), 6);
-        faulty(book, "its first day", Check.loan(book, 0, "4+300:0"), 6);
+        check.faulty(book, "its days, and too heavy", Check.loan(book, 0, "4+1:0,2"), 6);
+        check.faulty(book, "its first day", Check.loan(book, 0, "4+300:0"), 6);
         check.answered(book, "the day behind, the last day 999", Check.loan(book, 0, "696+300:0"), 1);
-        faulty(book, "its last day", Check.loan(book, 0, "692+1:0"), 6);
+        check.faulty(book, "its last day", Check.loan(book, 0, "692+1:0"), 6);
         check.answered(book, "the day ahead", Check.loan(book, 0, "691+1:0"), 2);
         check.answered(book, "the day behind", Check.loan(book, 0, "5+1:0"), 3);
         book.cancel(0);
         check.answered(book, "in place of one cancelled", Check.loan(book, 0, "0+1:0"), 4);
         check.due("count(3)", book.count(3), 5);
-        LoanBook far = new LoanBook();
+        Book far = new Book();
         Check.house(far, "30 50 9999 9");
         Check.thing(far, "jar 100 50");
-        faulty(far, "a day 1000", Check.loan(far, 0, "640+301:0"), 5);
-        faulty(far, "a day 1000", Check.loan(far, 0, "641+300:0"), 5);
+        check.faulty(far, "a day 1000", Check.loan(far, 0, "640+301:0"), 5);
+        check.faulty(far, "a day 1000", Check.loan(far, 0, "641+300:0"), 5);
         check.answered(far, "up to 999", Check.loan(far, 0, "640+300:0"), 0);
-        faulty(far, "its last day", Check.loan(far, 0, "570+11:0"), 6);
+        check.faulty(far, "its last day", Check.loan(far, 0, "570+11:0"), 6);
         check.answered(far, "up to the day ahead", Check.loan(far, 0, "570+10:0"), 1);
     }
 
     private static void faultsOfReports() {
         check.about("promise 8, FAULTS 9 to 11");
-        LoanBook book = new LoanBook();
+        Book book = new Book();
         Check.thing(book, "jar 100 50");
         Check.thing(book, "jar 100 50");
-        faulty(book, "spot 100", Check.report(book, 0, 5, "tear 100 5"), 9);
-        faulty(book, "spot 100 of a later one", Check.report(book, 0, 5, "tear 5 5, loss 5 5, loss 100 5"), 9);
-        faulty(book, "size 0", Check.report(book, 0, 5, "tear 5 0"), 9);
-        faulty(book, "size 100", Check.report(book, 0, 5, "tear 5 5, loss 5 100"), 9);
-        faulty(book, "the same twice, and size 0", Check.report(book, 0, 5, "tear 5 5, tear 5 5, loss 5 0"), 9);
-        faulty(book, "the same twice", Check.report(book, 0, 5, "tear 5 5, loss 5 5, tear 05 6"), 10);
+        check.faulty(book, "spot 100", Check.report(book, 0, 5, "tear 100 5"), 9);
+        check.faulty(book, "spot 100 of a later one", Check.report(book, 0, 5, "tear 5 5, loss 5 5, loss 100 5"), 9);
+        check.faulty(book, "size 0", Check.report(book, 0, 5, "tear 5 0"), 9);
+        check.faulty(book, "size 100", Check.report(book, 0, 5, "tear 5 5, loss 5 100"), 9);
+        check.faulty(book, "the same twice, and size 0", Check.report(book, 0, 5, "tear 5 5, tear 5 5, loss 5 0"), 9);
+        check.faulty(book, "the same twice", Check.report(book, 0, 5, "tear 5 5, loss 5 5, tear 05 6"), 10);
         check.answered(book, "spots 0 and 99", Check.report(book, 0, 5, "tear 0 1, tear 99 99, stain 0 1"), 1);
-        faulty(book, "the same day", Check.report(book, 0, 5, "sound"), 11);
-        faulty(book, "the same day and twice", Check.report(book, 0, 5, "loss 1 1, loss 1 2"), 10);
+        check.faulty(book, "the same day", Check.report(book, 0, 5, "sound"), 11);
+        check.faulty(book, "the same day and twice", Check.report(book, 0, 5, "loss 1 1, loss 1 2"), 10);
         check.answered(book, "another thing", Check.report(book, 1, 5, "sound"), 1);
         check.answered(book, "an earlier day", Check.report(book, 0, 4, "sound"), 2);
         check.answered(book, "day 0", Check.report(book, 0, 0, "sound"), 3);
@@ -407,44 +393,37 @@ public final class PromiseTest {
         check.due("count(5)", book.count(5), 5);
     }
 
-    private static void full(LoanBook book, String call, int got) {
-        check.refused(book, call, got, 9);
-        check.due("fault() behind " + call, book.fault(), 0);
-        check.due("place() behind " + call, book.place(), BAD);
-        check.due("tape behind " + call, book.count(6), 0);
-    }
-
     private static void room() {
         check.about("no room");
-        LoanBook book = new LoanBook();
+        Book book = new Book();
         for (int i = 0; i < 16; i++) {
             check.answered(book, "thing " + i, Check.thing(book, "jar 7 7"), i);
         }
-        full(book, "thing 16", Check.thing(book, "jar 7 7"));
-        faulty(book, "thing 16 with a FAULT", Check.thing(book, "jar 0 7"), 1);
+        check.full(book, "thing 16", Check.thing(book, "jar 7 7"));
+        check.faulty(book, "thing 16 with a FAULT", Check.thing(book, "jar 0 7"), 1);
         check.refused(book, "wrong thing 16", Check.thing(book, "jar"), 2);
         for (int i = 0; i < 6; i++) {
             check.answered(book, "house " + i, Check.house(book, "1 7 7 7"), i);
         }
-        full(book, "house 6", Check.house(book, "1 7 7 7"));
-        faulty(book, "house 6 with a FAULT", Check.house(book, "0 7 7 7"), 3);
+        check.full(book, "house 6", Check.house(book, "1 7 7 7"));
+        check.faulty(book, "house 6 with a FAULT", Check.house(book, "0 7 7 7"), 3);
         for (int i = 0; i < 8; i++) {
             check.answered(book, "courier " + i, Check.courier(book, "1-7"), i);
         }
-        full(book, "courier 8", Check.courier(book, "1-7"));
-        faulty(book, "courier 8 with a FAULT", Check.courier(book, "7-1"), 4);
+        check.full(book, "courier 8", Check.courier(book, "1-7"));
+        check.faulty(book, "courier 8 with a FAULT", Check.courier(book, "7-1"), 4);
         for (int i = 0; i < 48; i++) {
             check.answered(book, "report " + i, Check.report(book, i % 16, 2 * i, "sound"), i / 16 + 1);
             check.answered(book, "appraise " + i, book.appraise(i % 16, 2 * i, 9), i < 16 ? 7 : 9);
         }
-        full(book, "report 48", Check.report(book, 0, 1, "sound"));
-        faulty(book, "report 48 on a day told", Check.report(book, 0, 0, "sound"), 11);
+        check.full(book, "report 48", Check.report(book, 0, 1, "sound"));
+        check.faulty(book, "report 48 on a day told", Check.report(book, 0, 0, "sound"), 11);
         check.refused(book, "appraise 48", book.appraise(0, 1, 9), 9);
         check.due("value(0, 1)", book.value(0, 1), 9);
         check.answered(book, "appraise a pair told", book.appraise(15, 94, 8), 9);
         check.due("value(15, 94)", book.value(15, 94), 8);
         check.refused(book, "appraise 48, value 0", book.appraise(0, 1, 0), 3);
-        LoanBook again = new LoanBook();
+        Book again = new Book();
         Check.thing(again, "jar 7 7");
         for (int i = 1; i <= 60; i++) {
             check.answered(again, "the same pair again", again.appraise(0, 5, i), i == 1 ? 7 : i - 1);
@@ -457,7 +436,7 @@ public final class PromiseTest {
 
     private static void roomOfLoans() {
         check.about("no room for loans");
-        LoanBook book = new LoanBook();
+        Book book = new Book();
         Check.thing(book, "jar 7 7");
         Check.house(book, "1 7 0 7");
         Check.courier(book, "0-900");
@@ -467,18 +446,18 @@ public final class PromiseTest {
         for (int i = 0; i < 16; i++) {
             check.answered(book, "cancel " + i, book.cancel(i), 15 - i);
         }
-        full(book, "loan 16", Check.loan(book, 0, "1+1:0"));
+        check.full(book, "loan 16", Check.loan(book, 0, "1+1:0"));
         check.due("busy(0)", book.busy(0), 0);
         check.due("where(0, 1)", book.where(0, 1), -1);
-        faulty(book, "loan 16 with a FAULT", Check.loan(book, 0, "1+0:0"), 5);
-        faulty(book, "loan 16 without a courier", Check.loan(book, 0, "900+1:0"), 8);
+        check.faulty(book, "loan 16 with a FAULT", Check.loan(book, 0, "1+0:0"), 5);
+        check.faulty(book, "loan 16 without a courier", Check.loan(book, 0, "900+1:0"), 8);
         check.due("count(3)", book.count(3), 16);
         check.due("count(4)", book.count(4), 0);
     }
 
     private static void appraising() {
         check.about("promises 9 and 14");
-        LoanBook book = new LoanBook();
+        Book book = new Book();
         Check.thing(book, "jar 1200 50");
         Check.thing(book, "jar 5 50");
         check.answered(book, "value(0, 999)", book.value(0, 999), 1200);
@@ -509,7 +488,7 @@ public final class PromiseTest {
 
     private static void cancelling() {
         check.about("promise 10");
-        LoanBook book = new LoanBook();
+        Book book = new Book();
         Check.thing(book, "jar 7 7");
         Check.thing(book, "jar 7 7");
         Check.house(book, "1 7 0 7");
@@ -543,7 +522,7 @@ public final class PromiseTest {
 
     private static void placeAndFault() {
         check.about("promises 11 and 12");
-        LoanBook book = new LoanBook();
+        Book book = new Book();
         Check.house(book, "0 1 1 1");
         check.due("fault()", book.fault(), 3);
         check.due("status()", book.status(), 4);
@@ -562,7 +541,7 @@ public final class PromiseTest {
 
     private static void counting() {
         check.about("promise 13");
-        LoanBook book = new LoanBook();
+        Book book = new Book();
         check.refused(book, "count(7)", book.count(7), 3);
         check.refused(book, "count(-1)", book.count(-1), 3);
         Check.thing(book, "jar 7 7");
@@ -587,7 +566,7 @@ public final class PromiseTest {
 
     private static void goingTogether() {
         check.about("promise 15");
-        LoanBook book = new LoanBook();
+        Book book = new Book();
         Check.thing(book, "jar 7 7 not jar not book");
         Check.thing(book, "sheet 7 7");
         Check.thing(book, "book 7 7 not skin");
@@ -606,7 +585,7 @@ public final class PromiseTest {
 
     private static void whereAndFree() {
         check.about("promises 16 and 17");
-        LoanBook book = new LoanBook();
+        Book book = new Book();
         Check.thing(book, "jar 7 7");
         Check.thing(book, "jar 7 7");
         Check.house(book, "3 7 9999 7");
@@ -643,7 +622,7 @@ public final class PromiseTest {
 
     private static void stages() {
         check.about("promise 18");
-        LoanBook book = new LoanBook();
+        Book book = new Book();
         Check.thing(book, "jar 7 7");
         Check.house(book, "3 7 9999 7");
         Check.loan(book, 0, "10+4:0");
@@ -659,7 +638,7 @@ public final class PromiseTest {
 
     private static void packing() {
         check.about("promises 19 to 21");
-        LoanBook book = new LoanBook();
+        Book book = new Book();
         int[] weights = {10, 60, 50, 60, 40, 30};
         for (int weight : weights) {
             Check.thing(book, "jar 7 " + weight);
@@ -688,7 +667,7 @@ public final class PromiseTest {
 
     private static void packingApart() {
         check.about("promises 19 to 21, bars");
-        LoanBook book = new LoanBook();
+        Book book = new Book();
         Check.thing(book, "jar 7 50 not skin");
         Check.thing(book, "skin 7 40");
         Check.thing(book, "book 7 30 not skin");
@@ -706,7 +685,7 @@ public final class PromiseTest {
 
     private static void guarding() {
         check.about("promise 22");
-        LoanBook book = new LoanBook();
+        Book book = new Book();
         Check.thing(book, "jar 100 50");
         Check.thing(book, "jar 300 49");
         Check.thing(book, "jar 200 48");
@@ -739,7 +718,7 @@ public final class PromiseTest {
 
     private static void guardingLeastBusy() {
         check.about("promises 22 and 23, the least busy");
-        LoanBook book = new LoanBook();
+        Book book = new Book();
         Check.thing(book, "jar 100 50");
         Check.thing(book, "jar 100 50");
         Check.house(book, "5 50 0 7");
@@ -767,19 +746,19 @@ public final class PromiseTest {
         check.answered(book, "loan 4", Check.loan(book, 1, "500+1:0"), 4);
         check.due("guard out", book.guard(4, 0, 0), 1);
         check.due("guard back", book.guard(4, 0, 1), 1);
-        faulty(book, "the only courier is busy", Check.loan(book, 1, "504+1:1"), 8);
+        check.faulty(book, "the only courier is busy", Check.loan(book, 1, "504+1:1"), 8);
         check.answered(book, "loan 5", Check.loan(book, 1, "505+1:1"), 5);
     }
 
     private static void guardingTakenBack() {
         check.about("promise 7, refused by an 8");
-        LoanBook book = new LoanBook();
+        Book book = new Book();
         Check.thing(book, "jar 100 50");
         Check.thing(book, "jar 100 50");
         Check.house(book, "3 50 0 7");
         Check.courier(book, "0-20");
         Check.courier(book, "0-5");
-        faulty(book, "one courier back for two parcels", Check.loan(book, 0, "0+3:0,1"), 8);
+        check.faulty(book, "one courier back for two parcels", Check.loan(book, 0, "0+3:0,1"), 8);
         check.due("busy(0)", book.busy(0), 0);
         check.due("busy(1)", book.busy(1), 0);
         check.due("with(0, 0)", book.with(0, 0), -1);
@@ -788,7 +767,7 @@ public final class PromiseTest {
         check.answered(book, "loan 0", Check.loan(book, 0, "0+3:1"), 0);
         check.due("busy(0)", book.busy(0), 6);
         check.due("with(0, 6)", book.with(0, 6), 0);
-        faulty(book, "courier 0 is busy on the way back", Check.loan(book, 0, "3+1:0"), 8);
+        check.faulty(book, "courier 0 is busy on the way back", Check.loan(book, 0, "3+1:0"), 8);
         check.due("busy(0)", book.busy(0), 6);
         check.due("busy(1)", book.busy(1), 0);
         check.due("ready(1, 0, 6)", book.ready(1, 0, 6), 0);
@@ -796,7 +775,7 @@ public final class PromiseTest {
 
     private static void busyWithReady() {
         check.about("promises 23 to 25");
-        LoanBook book = new LoanBook();
+        Book book = new Book();
         Check.thing(book, "jar 100 50");
         Check.house(book, "3 50 0 7");
         Check.courier(book, "5-20,22-30,31-40");
@@ -828,8 +807,8 @@ public final class PromiseTest {
         check.refused(book, "ready(0, 1000, 1)", book.ready(0, 1000, 1), 3);
     }
 
-    private static LoanBook lentBook() {
-        LoanBook book = new LoanBook();
+    private static Book lentBook() {
+        Book book = new Book();
         Check.thing(book, "jar 100 50");
         Check.thing(book, "jar 30 40");
         Check.house(book, "2 50 50 7");
@@ -841,7 +820,7 @@ public final class PromiseTest {
 
     private static void costs() {
         check.about("promise 26");
-        LoanBook book = lentBook();
+        Book book = lentBook();
         check.answered(book, "cost ahead", book.cost(0, 9), 0);
         check.answered(book, "cost out", book.cost(0, 10), 7 * 10 * (100 * 2 + 30 * 3));
         check.answered(book, "cost stay", book.cost(0, 12), 7 * 10 * (100 + 30));
@@ -856,7 +835,7 @@ public final class PromiseTest {
         check.answered(book, "cost 13", book.cost(0, 13), 7 * (100 * 10 + 1000 * 10));
         check.answered(book, "cost 15", book.cost(0, 15), 7 * (100 * 10 * 2 + 1000 * 10 * 3));
         check.answered(book, "cost 16", book.cost(0, 16), 7 * (100 * 10 * 2 + 1000 * 11 * 3));
-        LoanBook oneWay = new LoanBook();
+        Book oneWay = new Book();
         Check.thing(oneWay, "jar 100 50");
         Check.house(oneWay, "1 50 100 1");
         Check.courier(oneWay, "0-99");
@@ -876,7 +855,7 @@ public final class PromiseTest {
 
     private static void premiums() {
         check.about("promise 27");
-        LoanBook book = lentBook();
+        Book book = lentBook();
         int way = 7 * 10 * 290;
         int stay = 7 * 10 * 130;
         check.answered(book, "all of it", book.premium(0, 0, 999), (4 * way + 3 * stay) / 10000);
@@ -889,7 +868,7 @@ public final class PromiseTest {
         check.refused(book, "a -1", book.premium(0, -1, 11), 3);
         check.refused(book, "b 1000", book.premium(0, 11, 1000), 3);
         check.refused(book, "premium(1, 0, 0)", book.premium(1, 0, 0), 1);
-        LoanBook edge = new LoanBook();
+        Book edge = new Book();
         Check.thing(edge, "jar 1000 1");
         Check.house(edge, "1 1 9999 1");
         Check.loan(edge, 0, "0+1:0");
@@ -897,7 +876,7 @@ public final class PromiseTest {
         edge.appraise(0, 1, 909);
         Check.report(edge, 0, 1, "tear 1 1");
         check.answered(edge, "9999", edge.premium(0, 1, 1), 0);
-        LoanBook dear = new LoanBook();
+        Book dear = new Book();
         for (int i = 0; i < 16; i++) {
             Check.thing(dear, "jar 9999 1");
         }
@@ -911,7 +890,7 @@ public final class PromiseTest {
 
     private static void dearestDays() {
         check.about("promise 28");
-        LoanBook book = lentBook();
+        Book book = lentBook();
         check.answered(book, "the first of several", book.dearest(0), 10);
         book.appraise(0, 16, 101);
         check.answered(book, "the last", book.dearest(0), 16);
@@ -928,7 +907,7 @@ public final class PromiseTest {
 
     private static void harmsAndNotes() {
         check.about("promises 29 and 30");
-        LoanBook book = new LoanBook();
+        Book book = new Book();
         Check.thing(book, "jar 100 50");
         Check.thing(book, "jar 100 50");
         check.answered(book, "no report", book.harms(0, 999), 0);
@@ -959,7 +938,7 @@ public final class PromiseTest {
 
     private static void damages() {
         check.about("promise 31");
-        LoanBook book = new LoanBook();
+        Book book = new Book();
         Check.thing(book, "jar 100 50");
         Check.thing(book, "jar 100 50");
         Check.report(book, 0, 20, "tear 1 5, stain 1 5, crack 1 5, loss 1 5");
@@ -987,7 +966,7 @@ public final class PromiseTest {
 
     private static void bearers() {
         check.about("promise 32");
-        LoanBook book = new LoanBook();
+        Book book = new Book();
         Check.thing(book, "jar 100 50");
         Check.thing(book, "jar 100 50");
         Check.house(book, "1 50 9999 7");
@@ -1014,7 +993,7 @@ public final class PromiseTest {
         check.refused(book, "bearer(2, 5)", book.bearer(2, 5), 1);
         check.refused(book, "bearer(0, 1000)", book.bearer(0, 1000), 3);
         check.refused(book, "bearer(2, 1000)", book.bearer(2, 1000), 1);
-        LoanBook even = new LoanBook();
+        Book even = new Book();
         Check.thing(even, "jar 100 50");
         Check.house(even, "1 50 9999 7");
         Check.loan(even, 0, "30+3:0");
@@ -1031,7 +1010,7 @@ public final class PromiseTest {
         check.answered(even, "loans in part", even.bearer(0, 41), 0);
         Check.report(even, 0, 43, "sound");
         check.answered(even, "one of its days", even.bearer(0, 43), 3);
-        LoanBook rising = new LoanBook();
+        Book rising = new Book();
         Check.thing(rising, "jar 100 50");
         Check.house(rising, "1 50 9999 7");
         Check.loan(rising, 0, "10+3:0");
@@ -1048,7 +1027,7 @@ public final class PromiseTest {
 
     private static void chargesAndHome() {
         check.about("promises 33 and 34");
-        LoanBook book = new LoanBook();
+        Book book = new Book();
         Check.thing(book, "jar 100 50");
         Check.thing(book, "jar 50 40");
         Check.house(book, "1 90 9999 7");
@@ -1076,7 +1055,7 @@ public final class PromiseTest {
         check.refused(book, "charge(0) behind cancel(0)", book.charge(0), 1);
         check.due("home()", book.home(), 5);
         check.due("status() stays behind home()", book.status(), 1);
-        LoanBook edge = new LoanBook();
+        Book edge = new Book();
         Check.thing(edge, "jar 333 50");
         Check.report(edge, 0, 5, "sound");
         Check.report(edge, 0, 6, "tear 1 1");
@@ -1094,7 +1073,7 @@ public final class PromiseTest {
 
     private static void letters() {
         check.about("promise 35");
-        LoanBook book = new LoanBook();
+        Book book = new Book();
         Check.thing(book, "cast0012 007 not book not jar notsheet".replace("notsheet", "not sheet"));
         Check.thing(book, "skin 9999 999 not cast not skin not book not jar not sheet");
         Check.house(book, "02 0100 0000 09");
@@ -1116,7 +1095,7 @@ public final class PromiseTest {
 
     private static void statusOfCalls() {
         check.about("promise 36");
-        LoanBook book = new LoanBook();
+        Book book = new Book();
         book.end(1);
         check.due("status()", book.status(), 3);
         check.due("status() again", book.status(), 3);
@@ -1137,7 +1116,7 @@ public final class PromiseTest {
     /** Nothing is thrown, whatever the numbers are, and what is there stays as it is. */
     private static void numbersOutOfReach() {
         check.about("numbers out of reach");
-        LoanBook book = lentBook();
+        Book book = lentBook();
         for (int far : FAR) {
             check.refused(book, "end", book.end(far), 3);
             check.refused(book, "loan", book.loan(far), 1);
