@@ -78,6 +78,11 @@ public final class FaultEdgeTest {
             taken("thing", one + " 5 5" + FIVE_NOTS);
             faulty("thing", one + " 5 5" + FIVE_NOTS + " not " + one, 2);
         }
+        // whatever the numbers ahead of them are
+        for (int number = 1; number <= 70; number++) {
+            taken("thing", "jar " + number + " 5" + FIVE_NOTS);
+            taken("thing", "jar 5 " + number + FIVE_NOTS);
+        }
     }
 
     private static void leastFaultOfThings() {

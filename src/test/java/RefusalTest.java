@@ -21,6 +21,7 @@ public final class RefusalTest {
         orderOfAsking();
         textsThatAreNotRead();
         fillQuestions();
+        allWasTold();
         tapeCallsLeaveAll();
         appraiseAndCancelLeaveAll();
         askingLeavesAll();
@@ -78,6 +79,20 @@ public final class RefusalTest {
         }
         for (int i = 0; i < 48; i++) {
             book.appraise(i % 3, i, i + 1);
+        }
+    }
+
+    private static void allWasTold() {
+        check.about("what the refused calls below rest on");
+        Book much = new Book();
+        tellMuch(much);
+        Book all = new Book();
+        tellAllThatHasRoom(all);
+        int[] counts = {4, 2, 2, 3, 2, 7, 0};
+        int[] most = {16, 6, 8, 16, 15, 48, 0};
+        for (int what = 0; what < counts.length; what++) {
+            check.answered(much, "count(" + what + ")", much.count(what), counts[what]);
+            check.answered(all, "count(" + what + ")", all.count(what), most[what]);
         }
     }
 

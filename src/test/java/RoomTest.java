@@ -4,7 +4,7 @@ import java.lang.management.ManagementFactory;
 /** What the dearest runs of 512 calls make, in bytes: a tenth of the room that they have, counted as four bytes an element. */
 public final class RoomTest {
     private static final long MOST = 7_300_000L * 4 / 10;
-    private static final int CALLS = 512;
+    private static final int ONE_TURN = 5;
     private static final Check check = new Check();
     private static final ThreadMXBean THREADS = (ThreadMXBean) ManagementFactory.getThreadMXBean();
 
@@ -23,10 +23,10 @@ public final class RoomTest {
 
     private static void spent(String what, boolean counts, int run) {
         long before = THREADS.getThreadAllocatedBytes(Thread.currentThread().getId());
-        LoanBook book = new LoanBook();
+        Book book = new Book();
         fill(book);
-        for (int call = 200; call < CALLS; call += 2) {
-            again(book, run, call);
+        while (book.callsLeft() >= ONE_TURN) {
+            again(book, run, book.callsLeft());
         }
         long made = THREADS.getThreadAllocatedBytes(Thread.currentThread().getId()) - before;
         if (counts) {
@@ -36,7 +36,7 @@ public final class RoomTest {
     }
 
     /** Texts of twenty bytes: "jar 7 7", "1 7 9999 9", "0-999", "0+300:0", and their like. */
-    private static void fill(LoanBook book) {
+    private static void fill(Book book) {
         for (int i = 0; i < 16; i++) {
             book.feed(0x6a617220, 0x39393939, 0x20372020, 0x20202020, 0x20202020);
             book.thing();
@@ -56,7 +56,7 @@ public final class RoomTest {
         }
     }
 
-    private static void again(LoanBook book, int run, int call) {
+    private static void again(Book book, int run, int call) {
         switch (run) {
             case 0: lendEight(book); book.cancel(book.count(3) - 1); break;
             case 1: refuseNine(book); break;
@@ -66,14 +66,14 @@ public final class RoomTest {
     }
 
     /** "300+300:0,1,2,3,4,5,6,7": each THING is a PARCEL that gets its COURIER, until there are sixteen LOANS. */
-    private static void lendEight(LoanBook book) {
+    private static void lendEight(Book book) {
         book.feed(0x3330302b, 0x3330303a, 0x302c312c, 0x322c332c, 0x342c352c);
         book.feed(0x362c3720, 0x20202020, 0x20202020, 0x20202020, 0x20202020);
         book.loan(0);
     }
 
     /** "300+300:0,1,2,3,4,5,6,7,8": there are eight COURIERS for nine PARCELS. */
-    private static void refuseNine(LoanBook book) {
+    private static void refuseNine(Book book) {
         book.feed(0x3330302b, 0x3330303a, 0x302c312c, 0x322c332c, 0x342c352c);
         book.feed(0x362c372c, 0x38202020, 0x20202020, 0x20202020, 0x20202020);
         book.loan(0);
