@@ -410,18 +410,24 @@ public final class MoneyEdgeTest {
 
     private static void bearerWithTheMostDays() {
         check.about("'the one with the most DAYS among those'");
-        // LOAN 0 has 10 to 12, LOAN 1 20 to 23, LOAN 2 30 to 34
+        // the first LOAN has 10 to 12, the second 20 to 23, the third 30 to 34, in whatever order they are made
+        String[] loans = {"10+1:0", "20+2:0", "30+3:0"};
+        int[][] orders = {{0, 1, 2}, {0, 2, 1}, {1, 0, 2}, {1, 2, 0}, {2, 0, 1}, {2, 1, 0}};
         int[][] asked = {{5, 40, 2}, {5, 33, 1}, {5, 34, 2}, {5, 32, 1}, {5, 22, 0}, {5, 23, 1}, {10, 21, 0}, {11, 21, 1},
             {10, 22, 1}, {20, 32, 1}, {21, 32, 2}, {21, 31, 1}, {22, 31, 2}, {12, 19, -1}, {23, 29, -1}, {34, 40, -1},
             {23, 30, 2}, {33, 34, 2}};
         for (int[] one : asked) {
-            Book book = book(1, 1000);
-            Check.loan(book, 0, "10+1:0");
-            Check.loan(book, 0, "20+2:0");
-            Check.loan(book, 0, "30+3:0");
-            Check.report(book, 0, one[0], "sound");
-            Check.report(book, 0, one[1], "sound");
-            check.answered(book, "from " + one[0] + " to " + one[1], book.bearer(0, one[1]), one[2]);
+            for (int[] order : orders) {
+                Book book = book(1, 1000);
+                int want = -1;
+                for (int i = 0; i < 3; i++) {
+                    Check.loan(book, 0, loans[order[i]]);
+                    want = order[i] == one[2] ? i : want;
+                }
+                Check.report(book, 0, one[0], "sound");
+                Check.report(book, 0, one[1], "sound");
+                check.answered(book, "from " + one[0] + " to " + one[1], book.bearer(0, one[1]), want);
+            }
         }
     }
 
