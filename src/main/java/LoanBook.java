@@ -97,8 +97,9 @@ public final class LoanBook {
     }
 
     public int thing() {
-        boolean right = reader.readsThing(tape);
+        reader.begin(tape);
         tape.keep(0);
+        boolean right = reader.readsThing();
         int fault = right ? Thing.faultIn(reader) : 0;
         int refusal = refusalOfText(right, fault, things.size() < MOST_THINGS);
         if (refusal != OK) {
@@ -109,8 +110,9 @@ public final class LoanBook {
     }
 
     public int house() {
-        boolean right = reader.readsHouse(tape);
+        reader.begin(tape);
         tape.keep(0);
+        boolean right = reader.readsHouse();
         int fault = right ? House.faultIn(reader) : 0;
         int refusal = refusalOfText(right, fault, houses.size() < MOST_HOUSES);
         if (refusal != OK) {
@@ -121,8 +123,9 @@ public final class LoanBook {
     }
 
     public int courier() {
-        boolean right = reader.readsCourier(tape);
+        reader.begin(tape);
         tape.keep(0);
+        boolean right = reader.readsCourier();
         int fault = right ? Courier.faultIn(reader) : 0;
         int refusal = refusalOfText(right, fault, couriers.size() < MOST_COURIERS);
         if (refusal != OK) {
@@ -138,8 +141,9 @@ public final class LoanBook {
             tape.keep(0);
             return refuse(NO_SUCH);
         }
-        boolean right = reader.readsLoan(tape);
+        reader.begin(tape);
         tape.keep(0);
+        boolean right = reader.readsLoan();
         int number = loans.size();
         int fault = right ? faultInLoan(borrower) : 0;
         Loan made = null;
@@ -166,8 +170,9 @@ public final class LoanBook {
             tape.keep(0);
             return refuseAsked(of != null);
         }
-        boolean right = reader.readsReport(tape);
+        reader.begin(tape);
         tape.keep(0);
+        boolean right = reader.readsReport();
         int fault = right ? Report.faultIn(reader) : 0;
         if (right && fault == 0 && of.reportOn(day) != null) {
             fault = FAULT_REPORT_TWICE;
@@ -836,18 +841,23 @@ public final class LoanBook {
             return wrongAt;
         }
 
-        boolean readsThing(Tape tape) {
-            begin(tape);
+        /** Cuts the text into PIECES: the TAPE may change from then on. */
+        void begin(Tape tape) {
+            pieces.cut(tape);
+            size = 0;
+            at = 0;
+            wrongAt = BAD;
+        }
+
+        boolean readsThing() {
             return takesWord(WORD_KIND, KINDS) && takesNumber() && takesNumber() && takesBars() && isAtEnd();
         }
 
-        boolean readsHouse(Tape tape) {
-            begin(tape);
+        boolean readsHouse() {
             return takesNumber() && takesNumber() && takesNumber() && takesNumber() && isAtEnd();
         }
 
-        boolean readsCourier(Tape tape) {
-            begin(tape);
+        boolean readsCourier() {
             boolean right = takesSpan();
             for (int step = 0; step < Tape.ROOM && right && skips(','); step++) {
                 right = takesSpan();
@@ -855,8 +865,7 @@ public final class LoanBook {
             return right && isAtEnd();
         }
 
-        boolean readsLoan(Tape tape) {
-            begin(tape);
+        boolean readsLoan() {
             boolean right = takesNumber() && takesMark('+') && takesNumber() && takesMark(':') && takesNumber();
             for (int step = 0; step < Tape.ROOM && right && skips(','); step++) {
                 right = takesNumber();
@@ -864,8 +873,7 @@ public final class LoanBook {
             return right && isAtEnd();
         }
 
-        boolean readsReport(Tape tape) {
-            begin(tape);
+        boolean readsReport() {
             if (skips(WORD_SOUND)) {
                 return isAtEnd();
             }
@@ -874,13 +882,6 @@ public final class LoanBook {
                 right = takesHarm();
             }
             return right && isAtEnd();
-        }
-
-        private void begin(Tape tape) {
-            pieces.cut(tape);
-            size = 0;
-            at = 0;
-            wrongAt = BAD;
         }
 
         private boolean isWrongHere() {
